@@ -1157,12 +1157,13 @@ public final class EmberScript {
             }
         }
 
-        /** Takes the token behind which the depth is this one. */
-        private void open(int type, int depth) {
+        /** Takes the token behind which the depth is this one, and tells whether it could be taken. */
+        private boolean open(int type, int depth) {
             if (depth > MOST_DEPTH) {
                 failed = true;
             }
             need(type);
+            return !failed;
         }
 
         private int takeName() {
@@ -1183,9 +1184,10 @@ public final class EmberScript {
         }
 
         private void block(int depth) {
-            open('{', depth + 1);
-            statements(depth + 1);
-            need('}');
+            if (open('{', depth + 1)) {
+                statements(depth + 1);
+                need('}');
+            }
         }
 
         private void statement(int depth) {
@@ -1293,9 +1295,8 @@ public final class EmberScript {
         }
 
         private void inputs(int depth) {
-            open('(', depth + 1);
             int count = 0;
-            if (now() != ')') {
+            if (open('(', depth + 1) && now() != ')') {
                 declare(takeName(), false);
                 count++;
                 for (int n = 0; n < Tokens.MOST && take(','); n++) {
@@ -1468,7 +1469,7 @@ public final class EmberScript {
             value(depth);
             if (shape == SLOT) {
                 draft.add(Script.ASSIGN, word, 0);
-            } else {
+            } else if (shape == NAME) {
                 draft.add(Script.STORE, start, function);
             }
         }
@@ -1492,12 +1493,11 @@ public final class EmberScript {
         }
 
         private void single(int depth) {
-            if (now() == Tokens.NOT) {
-                open(Tokens.NOT, depth + 1);
+            if (now() != Tokens.NOT) {
+                test(depth);
+            } else if (open(Tokens.NOT, depth + 1)) {
                 single(depth + 1);
                 draft.add(Script.NOT, 0, 0);
-            } else {
-                test(depth);
             }
         }
 
@@ -1562,12 +1562,11 @@ public final class EmberScript {
 
         private void turned(int depth) {
             int type = now();
-            if (type == '-' || type == Tokens.WEAK || type == Tokens.NEXT) {
-                open(type, depth + 1);
+            if (type != '-' && type != Tokens.WEAK && type != Tokens.NEXT) {
+                call(depth);
+            } else if (open(type, depth + 1)) {
                 turned(depth + 1);
                 draft.add(type == '-' ? Script.NEGATE : type == Tokens.WEAK ? Script.WEAK : Script.NEXT, 0, 0);
-            } else {
-                call(depth);
             }
         }
 
@@ -1616,9 +1615,8 @@ public final class EmberScript {
             } else {
                 draft.add(Script.PUSH, Value.NIL, 0);
             }
-            open('(', depth + 1);
             int count = 0;
-            if (now() != ')') {
+            if (open('(', depth + 1) && now() != ')') {
                 value(depth + 1);
                 count++;
                 for (int n = 0; n < Tokens.MOST && take(','); n++) {
@@ -1643,9 +1641,7 @@ public final class EmberScript {
                 return NAME;
             }
             if (type == '(') {
-                open('(', depth + 1);
-                value(depth + 1);
-                need(')');
+                inner(depth);
             } else if (type == Tokens.FUN) {
                 inside(makeFunction(), depth);
             } else if (type == Tokens.OBJECT) {
@@ -1658,6 +1654,13 @@ public final class EmberScript {
                 plain(token, type);
             }
             return OTHER;
+        }
+
+        private void inner(int depth) {
+            if (open('(', depth + 1)) {
+                value(depth + 1);
+                need(')');
+            }
         }
 
         /** Reads a first that stands for a value itself. */
@@ -1680,8 +1683,7 @@ public final class EmberScript {
         /** Reads an object's braces; the words of its slots stand behind the instruction. */
         private void braces(int parents, int depth) {
             int from = slotCount;
-            open('{', depth + 1);
-            if (now() != '}') {
+            if (open('{', depth + 1) && now() != '}') {
                 slot(from, depth + 1);
                 for (int n = 0; n < Tokens.MOST && take(','); n++) {
                     slot(from, depth + 1);
@@ -2838,8 +2840,7 @@ public final class EmberScript {
                     read(frames.pop(), first, operation == Script.METHOD);
                     break;
                 case Script.ASSIGN:
-                    long value = frames.pop();
-                    assign(frames.pop(), first, value);
+                    assign(first, frames.pop());
                     break;
                 case Script.FUNCTION:
                     wish = Value.FUNCTION;
@@ -2884,7 +2885,8 @@ public final class EmberScript {
             frames.goOn();
         }
 
-        private void assign(long object, int word, long value) {
+        private void assign(int word, long value) {
+            long object = frames.pop();
             if (!Value.isObject(object)) {
                 raise(TYPE);
             } else if (!things.assign(Value.number(object), word, value)) {
