@@ -431,23 +431,81 @@ class Writer:
             self.budget = min(whole, len(self.out) + 20)
             self.first(letter)
         self.budget = whole
+        r = self.rng.random()
+        if r < 0.4:
+            self.main()
+        else:
+            # All happens in a frame, or in two.
+            for generator in ([False], [True], [False, True], [True, True])[self.rng.randrange(4)]:
+                self.budget = min(whole, len(self.out) + self.rng.choice([60, 120]))
+                self.main_function(generator)
+                name, inputs, _ = self.makers[0][-1]
+                call = name + " ( " + " , ".join("1" for _ in range(inputs)) + " )"
+                if generator:
+                    self.put(*("for n0 in " + call + " { print n0 ;").split())
+                else:
+                    self.put(*("while 1 < 2 { " + call + " ;").split())
+                self.in_loop[-1] += 1
+                self.depth += 1
+                for _ in range(self.rng.choice([0, 0, 1, 2])):
+                    if not self.full():
+                        self.statement()
+                self.depth -= 1
+                self.in_loop[-1] -= 1
+                self.put("}")
+            self.budget = whole + 40
+            self.main()
+        return self.out
+
+    def main_function(self, generator):
+        name = self.fresh("f") or "flast"
+        self.scopes[0].append(name)
+        inputs = ["n%d" % (self.count + i) for i in range(self.rng.choice([0, 1, 2]))]
+        self.count += len(inputs)
+        self.makers[0].append((name, len(inputs), generator))
+        self.put("def", name, "(")
+        self.put(*" , ".join(inputs).split())
+        self.put(")", "{")
+        self.functions += 1
+        self.scopes.append(list(inputs))
+        self.makers.append([])
+        self.in_loop.append(0)
+        self.kind.append("generator" if generator else "function")
+        self.depth += 1
+        if generator:
+            self.put("yield", "1", ";")
+        self.main()
+        self.depth -= 1
+        self.put("}")
+        self.scopes.pop()
+        self.makers.pop()
+        self.in_loop.pop()
+        self.kind.pop()
+
+    def main(self):
         budget = self.budget
         while not self.full():
             r = self.rng.random()
             if r < 0.06:
                 self.statement()
                 continue
+            names = self.scopes[-1]
             closing = 1
             self.depth += 2
             if r < 0.6:
                 closing = 2
-                if self.chance(0.5):
+                name = self.fresh("n")
+                if name is None or self.chance(0.5):
                     self.put("while", "true", "{")
                 else:
-                    name = self.fresh("n") or "n0"
-                    self.put("for", name, "in", str(self.rng.choice([2, 5, 100])), "{")
-                    if name not in self.scopes[0]:
-                        self.scopes[0].append(name)
+                    self.put("for", name, "in")
+                    makers = [m for m in self.makers[0] if m[2]]
+                    if makers and self.chance(0.6):
+                        self.leaf("g")
+                    else:
+                        self.put(str(self.rng.choice([2, 5, 100])))
+                    self.put("{")
+                    names.append(name)
                 self.in_loop[-1] += 1
             self.put("try", "{")
             self.budget = min(budget, len(self.out) + self.rng.choice([20, 40, 100, 200]))
@@ -455,18 +513,23 @@ class Writer:
                 self.statement()
             self.budget = budget
             self.put("}")
-            name = self.fresh("x") or self.scopes[0][-1]
-            self.put("catch", name, "{")
-            if name not in self.scopes[0]:
-                self.scopes[0].append(name)
-            if self.chance(0.4):
-                self.put("print", name, ";")
-            self.put("}")
+            name = self.fresh("x") or names[-1]
+            r = self.rng.random()
+            if r < 0.85:
+                self.put("catch", name, "{")
+                if name not in names:
+                    names.append(name)
+                if self.chance(0.4):
+                    self.put("print", name, ";")
+                self.put("}")
+            if r > 0.7:
+                self.put("finally", "{")
+                self.put(*self.rng.choice(["", "collect ;", "print 7 ;"]).split())
+                self.put("}")
             if closing == 2:
                 self.in_loop[-1] -= 1
                 self.put("}")
             self.depth -= 2
-        return self.out
 
 
 def join(rng, tokens):
