@@ -2269,13 +2269,12 @@ public final class EmberScript {
             without = leftOut;
         }
 
-        int distance(int thing) {
+        int distanceOf(int thing) {
             return distances.at(thing);
         }
 
         /** Takes up what the script and its frames hold. */
         void takeRoots() {
-            takeScopes(Scopes.WHOLE, 1);
             for (int frame = 0; frame <= frames.depth(); frame++) {
                 int record = frames.record(frame);
                 takeRecord(record, 1);
@@ -2537,12 +2536,12 @@ public final class EmberScript {
 
         /** The distance of a thing when the machine last looked; NOWHERE if it was not reached. */
         int distanceSeen(int thing) {
-            return reach.distance(thing);
+            return reach.distanceOf(thing);
         }
 
         /** How many of the things that it reached as it last looked around it reaches by this one alone. */
         int heldBy(int thing, int reached) {
-            if (reach.distance(thing) == Reach.NOWHERE) {
+            if (reach.distanceOf(thing) == Reach.NOWHERE) {
                 return 0;
             }
             without.begin(thing);
@@ -2559,7 +2558,7 @@ public final class EmberScript {
             reach.takeScopes(wish == Value.GENERATOR ? newScope : Scopes.WHOLE, 1);
             int unreached = things.count() - reach.spread();
             for (int thing = 0; thing < Things.MOST; thing++) {
-                if (things.has(thing) && reach.distance(thing) == Reach.NOWHERE) {
+                if (things.has(thing) && reach.distanceOf(thing) == Reach.NOWHERE) {
                     things.free(thing);
                 }
             }
@@ -2855,6 +2854,7 @@ public final class EmberScript {
                     call(frames.top() - first - 2, first);
                     break;
                 default:
+                    // A word of the object that was made ahead of it.
                     frames.goOn();
             }
         }
@@ -2963,7 +2963,6 @@ public final class EmberScript {
                 things.setScope(thing, frames.scope(frames.newest()));
             } else if (wish == Value.OBJECT) {
                 fillObject(thing, here, frames.top() - first);
-                frames.goTo(here + first);
             } else if (wish == Value.WEAK) {
                 things.setTarget(thing, Value.number(frames.pop()));
             } else {

@@ -166,6 +166,14 @@ public final class LanguageTest {
         Bench.prints("def f() {for i in 9 {if i == 4 {return i;}}} print f();", "4");
         Bench.prints("for i in 2 {for i in 3 {} print i;}", "2 2");
         Bench.prints("var n = 3; for i in n {n = 1; print i;}", "0 1 2");
+        // What is left by a break is what is in the loop, whatever stands ahead of the loop, or round it.
+        String twice = "for i in 2 {for j in 2 {break;} print i;} ";
+        Bench.prints("for a in 1 {} " + twice, "0 1");
+        Bench.prints("try {} finally {} " + twice, "0 1");
+        Bench.prints("try {} catch e {} " + twice, "0 1");
+        Bench.prints("for a in 1 {def f() {" + twice + "} f();}", "0 1");
+        Bench.prints("try {def f() {" + twice + "} f();} catch e {print e;}", "0 1");
+        Bench.prints("for a in 2 {try {fun() {try {" + twice + "} finally {}}();} finally {print 'a;}}", "0 1 '8 0 1 '8");
     }
 
     private static void generators() {
@@ -275,25 +283,44 @@ public final class LanguageTest {
                 "1 9");
     }
 
+    /** Runs a script for up to 99000 steps. */
+    private static EmberScript longRun(String text) {
+        EmberScript x = Bench.with(text);
+        for (int n = 0; n < 495 && x.state() == 0; n++) {
+            x.run(200);
+        }
+        return x;
+    }
+
     // Far more scopes are made than there is room for at a time; those that are kept stay what they were.
     private static void manyScopes() {
-        EmberScript x = Bench.with("def make(n) {return fun(k) {return fun() {return n * 1000 + k;};};}"
+        EmberScript x = longRun("def make(n) {return fun(k) {return fun() {return n * 1000 + k;};};}"
                 + "var o = object {}; var c = nil; var r = 0;"
                 + "def run(a) {c = make(a)(a + 1); if a == 3 {o.p = c;} if a == 400 {o.q = c;} return c();}"
-                + "while r < 5000 {r = r + 1; if run(r) != r * 1001 + 1 {print r;}}");
-        for (int n = 0; n < 495 && x.state() == 0; n++) {
-            x.run(200);
-        }
-        int rounds = x.numberOf(3);
-        Bench.is("many rounds", rounds > 3000, true);
-        Bench.is("wrong answers", x.printed(), 0);
-        x = Bench.with("def make(n) {return fun() {return n;};} var a = make(7); var b = make(8); def f(n) {var m = n; return m;}"
-                + "for i in 5000 {f(i);} print a(); print b();");
-        for (int n = 0; n < 495 && x.state() == 0; n++) {
-            x.run(200);
-        }
+                + "while r < 2500 {r = r + 1; if run(r) != r * 1001 + 1 {print r;}} print o.p(); print o.q();");
         Bench.is("state", x.state(), 1);
-        Bench.is("a()", x.numberPrinted(1), 7);
-        Bench.is("b()", x.numberPrinted(0), 8);
+        Bench.is("printed", x.printed(), 2);
+        Bench.is("o.p()", x.numberPrinted(1), 3004);
+        Bench.is("o.q()", x.numberPrinted(0), 400401);
+        // The variables of a new scope are nil, though others had it.
+        x = longRun("def f(n) {if m != nil {print m;} var m = n; return m;} for i in 3000 {f(i);} print 'ok;");
+        Bench.is("state", x.state(), 1);
+        Bench.is("printed", x.printed(), 1);
+        // Generators that wait, that have not begun, and frames that wait keep theirs.
+        x = longRun("def f(n) {var a = n; return a;} def g(n) {var k = n; yield k; yield k + 1; yield k + 2;}"
+                + "var a = g(10); var b = g(20); var c = fun(n) {return fun() {yield n;};}(30)(); next a;"
+                + "def deep(n) {var m = n; if n > 0 {deep(n - 1);} else {for i in 2500 {f(i);}} if m != n {print m;}}"
+                + "deep(5); print next a; print next b; print next c;");
+        Bench.is("state", x.state(), 1);
+        Bench.is("printed", x.printed(), 3);
+        Bench.is("the one that waited", x.numberPrinted(2), 11);
+        Bench.is("the one that had not begun", x.numberPrinted(1), 20);
+        Bench.is("the scope round the last", x.numberPrinted(0), 30);
+        // A generator keeps its own as it runs.
+        x = longRun("def f(n) {var a = n; return a;} def g(n) {var k = n; for i in 2500 {f(i);} yield k;} print next g(7);"
+                + "print next fun(n) {return fun() {for i in 2500 {f(i);} yield n;};}(8)();");
+        Bench.is("state", x.state(), 1);
+        Bench.is("the running one", x.numberPrinted(1), 7);
+        Bench.is("the scope round it", x.numberPrinted(0), 8);
     }
 }

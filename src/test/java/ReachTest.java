@@ -11,6 +11,7 @@ public final class ReachTest {
         halfWayThrough();
         forLoops();
         finallyBlocks();
+        anotherScript();
         thrownValues();
         runningGenerators();
         waitingGenerators();
@@ -202,6 +203,15 @@ public final class ReachTest {
         Bench.is("a return that break came in the place of", x.distance(1), -1);
     }
 
+    /** What another script was in the middle of is forgotten as one is loaded. */
+    private static void anotherScript() {
+        EmberScript x = at("def f() {#1;} try {throw object {};} finally {object {} == f();}");
+        Bench.is("garbage", x.garbage(), 0);
+        Bench.is("load", Bench.load(x, "object {}; object {}; 1;"), 0);
+        x.run(4);
+        Bench.is("garbage of the new script", x.garbage(), 2);
+    }
+
     private static void thrownValues() {
         EmberScript x = Bench.done("throw object {a = object {}};");
         Bench.is("state", x.state(), 2);
@@ -228,6 +238,17 @@ public final class ReachTest {
         Bench.is("what the outer one has worked out", x.reaches(2, 3), true);
         Bench.is("but not the inner one", x.reaches(4, 3), false);
         Bench.is("garbage", x.garbage(), 1);
+        x = at("def g() {object {} == f(); yield 1;} def f() {object {} == k();} def k() {#1;} next g();");
+        Bench.is("things", x.things(), 6);
+        Bench.is("what a generator has worked out", x.reaches(3, 4), true);
+        Bench.is("what a function that it called has worked out", x.reaches(3, 5), false);
+        Bench.is("garbage", x.garbage(), 0);
+        // The thing with the number 0 is as good as any other.
+        x = at("object {}; var f = fun() {#yield 1;}; collect; next f();");
+        Bench.is("kindOfThing", x.kindOfThing(0), 6);
+        Bench.is("a running generator with the number 0", x.distance(0), 1);
+        x.run(1);
+        Bench.is("as it waits", x.distance(0), -1);
         // In another's variable it is reached, by itself, too.
         x = at("var i = nil; def g() {#yield 1;} i = g(); next i;");
         Bench.is("it reaches itself by a variable", x.reaches(1, 1), true);
@@ -286,8 +307,8 @@ public final class ReachTest {
         filled(47, "o = nil; var p = object like object {c = 5} {}; print p.c;", "5");
         filled(46, "def g(a) {yield a.c;} o = nil; var j = g(object {c = 5}); print next j;", "5");
         filled(46, "o = nil; var j = object {c = 5, g = fun() {yield self.c;}}; object {}; object {}; print j.c;", "5");
-        filled(45, "o = nil; var j = object {c = 5, g = fun() {yield self.c;}}.g(); print next j;", "5");
-        filled(44, "def make(a) {return fun() {yield a.c;};} o = nil; var j = make(object {c = 5})(); print next j;", "5");
+        filled(46, "o = nil; var j = object {c = 5, g = fun() {yield self.c;}}.g(); print next j;", "5");
+        filled(45, "def make(a) {return fun() {yield a.c;};} o = nil; var j = make(object {c = 5})(); print next j;", "5");
         // The function that was called is not kept: its number is the new generator's, or free for the next.
         EmberScript x = new EmberScript();
         Bench.load(x, String.format(FILL, 47) + "var j = fun() {yield 1;}();");

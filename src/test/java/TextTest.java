@@ -5,6 +5,7 @@ public final class TextTest {
         tape();
         loading();
         tokens();
+        cutTokens();
         grammar();
         depth();
         tokenCount();
@@ -129,6 +130,32 @@ public final class TextTest {
         Bench.fails("print ; 'abcdefghijk", 1, 6);
     }
 
+    /** What was cut off the tape is no part of its last token. */
+    private static void cutTokens() {
+        cut("print 'a;", 7, 6);
+        cut("print 1!=2;", 8, 7);
+        cut("print abcdefghijk;", 16, 16);
+        cut("print 'abcdefghijk;", 17, 17);
+        cut("print 1234567;", 12, 12);
+        cut("print 1;", 7, 7);
+        // No byte is taken for anything but what it is.
+        for (int letter = 0; letter < 256; letter++) {
+            if (letter != ' ' && letter != '\n' && letter != ';' && (letter < '0' || letter > '9') && (letter < 'a' || letter > 'z')
+                    && "(){.+-*/%<>=,'".indexOf(letter) < 0) {
+                Bench.fails("print 1;" + (char) letter, 1, 8);
+                Bench.fails("print 1" + (char) letter + ";", 1, 7);
+            }
+        }
+    }
+
+    private static void cut(String text, int length, int place) {
+        EmberScript x = new EmberScript();
+        Bench.feed(x, text);
+        x.trim(length);
+        Bench.is("load of the cut " + text, x.load(), 1);
+        Bench.is("errorAt of the cut " + text, x.errorAt(), place);
+    }
+
     private static void grammar() {
         Bench.loads("def f() {} def g(a) {return;} def h(a, b) {return a;}");
         Bench.loads("if 1 {} if 1 {} else {} while 0 {} for i in 0 {} try {} catch e {} try {} finally {}");
@@ -231,6 +258,12 @@ public final class TextTest {
         Bench.fails(times("nil(", 13) + times(")", 13) + ";", 1, 51);
         Bench.loads(times("fun() {", 12) + times("};", 12));
         Bench.fails(times("fun() {", 13) + times("};", 13), 1, 12 * 7 + 3);
+        Bench.loads(times("nil(1,", 12) + "1" + times(")", 12) + ";");
+        Bench.fails(times("nil(1,", 13) + "1" + times(")", 13) + ";", 1, 75);
+        Bench.loads(times("object {a = ", 12) + "1" + times("}", 12) + ";");
+        Bench.fails(times("object {a = ", 13) + "1" + times("}", 13) + ";", 1, 12 * 12 + 7);
+        Bench.loads(times("object {a=1,b=", 12) + "1" + times("}", 12) + ";");
+        Bench.fails(times("object {a=1,b=", 13) + "1" + times("}", 13) + ";", 1, 14 * 12 + 7);
         // A value in parentheses behind a not ends the not.
         Bench.loads("print " + times("not ", 12) + "1 and " + times("not ", 12) + "1;");
         // like makes nothing deeper, however often it comes.

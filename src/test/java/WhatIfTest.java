@@ -91,6 +91,9 @@ public final class WhatIfTest {
         Bench.is("runs of two steps", Bench.with("object {}; object {}; object {}; print 1;").runsToPrint(), 4);
         EmberScript y = Bench.with("for i in 99 {object {};} print 1;");
         Bench.is("runs of more than 200 steps", y.runsToPrint(), -1);
+        // 2 and 3 for each round, in 2 runs: 1 + 66 * 3 = 199, and with 1 more 200.
+        Bench.is("199 steps in fewer runs", Bench.with("for i in 66 {object {};} print 1;").runsToPrint(), 134);
+        Bench.is("200 steps in fewer runs", Bench.with("1; for i in 66 {object {};} print 1;").runsToPrint(), -1);
     }
 
     private static void stateIfInterrupted() {
@@ -100,6 +103,9 @@ public final class WhatIfTest {
         Bench.is("in the try", x.stateIfInterrupted(0), 0);
         Bench.is("in the try", x.stateIfInterrupted(1), 0);
         Bench.is("still in the try", x.place(), 5);
+        EmberScript w = Bench.with("try {print 1;} catch e {print 2;}");
+        w.run(1);
+        Bench.is("no step is taken behind it", w.stateIfInterrupted(0), 0);
         EmberScript y = Bench.with("try {print 1;} catch e {}");
         y.run(1);
         Bench.is("to the end", y.stateIfInterrupted(7), 1);
@@ -146,8 +152,53 @@ public final class WhatIfTest {
         }
     }
 
+    /** Scripts that go another way if anything of what they hold is lost. */
+    private static final String[] HOLDERS = {
+        "def make(n) {return fun(k) {return fun() {return n * 10 + k;};};} var a = make(3)(4); var b = make(5)(6);"
+                + "for i in 9 {if a() + b() != 90 {throw 1;} print i;}",
+        "var o = object {p = 1, m = fun(n) {var t = self.p; k(); if n > 0 {self.m(n - 1);} if self.p != t {throw 1;} print n;}};"
+                + "var q = object like object like o {p = 2} {}; def k() {1; 2;} q.m(3); o.m(3); print q.p;",
+        "var o = object {}; var w = weak weak o; def f(a, b) {1; if w()() != o {throw 1;} 2; return a - b;}"
+                + "for i in 5 {print 100 - (f(7, i) * (3 - f(i, 1)));} o = nil; collect; 1; if w()() {throw 2;} print 1;",
+        "def g(n) {var s = n; try {while true {try {yield s; 1; s = s + 1;} finally {2; if s > 8 {return;}}}} finally {print s;}}"
+                + "def h(a) {for x in g(a) {yield x * 2; 3;}} var i = h(3); for x in h(5) {try {print x + next i;} catch e {4; print e;}}",
+        "def f(n) {try {if n == 0 {throw object {v = 1};} 1; return f(n - 1) + 1;} catch e {2; if e.v != 1 {throw 3;} throw e;}"
+                + "finally {3; object {}; collect; print n;}} try {f(8);} catch e {print e.v;} f(9);",
+        "var a = nil; for i in 60 {a = object like object {p = a, q = weak fun() {return i;}} {r = i}; if i > 9 {if a.r != i {throw 1;}}"
+                + "if i % 7 == 6 {a = nil; print i;}}",
+    };
+
+    /** At each place of a run, what is told comes true, whatever was asked before. */
+    private static void asToldOf(String text) {
+        int all = Bench.done(text).steps();
+        EmberScript other = Bench.with(HOLDERS[3]);
+        for (int ahead = 0; ahead < all; ahead++) {
+            EmberScript x = ahead % 2 == 0 ? new EmberScript() : other;
+            Bench.load(x, text);
+            if (ahead > 0 && ahead < 200) {
+                x.run(ahead);
+            } else if (ahead > 0) {
+                x.run(200);
+            }
+            if (x.state() == 0) {
+                int steps = 1 + ahead * 37 % 200;
+                int before = x.printed();
+                int prints = x.printedIn(steps);
+                int things = x.thingsIn(steps);
+                int ends = x.stepsToEnd(steps);
+                int counted = x.run(steps);
+                Bench.is("printedIn " + text, prints, x.printed() - before);
+                Bench.is("thingsIn " + text, things, x.things());
+                Bench.is("stepsToEnd " + text, ends, x.state() == 0 ? -1 : counted);
+            }
+        }
+    }
+
     /** What was told comes true. */
     private static void asTold() {
+        for (String text : HOLDERS) {
+            asToldOf(text);
+        }
         for (int steps = 1; steps <= 200; steps += 7) {
             EmberScript x = Bench.with(BUSY);
             for (int n = 0; n < 40 && x.state() == 0; n++) {
