@@ -283,10 +283,10 @@ public final class LanguageTest {
                 "1 9");
     }
 
-    /** Runs a script for up to 99000 steps. */
+    /** Runs a script for up to 90000 steps. */
     private static EmberScript longRun(String text) {
         EmberScript x = Bench.with(text);
-        for (int n = 0; n < 495 && x.state() == 0; n++) {
+        for (int n = 0; n < 450 && x.state() == 0; n++) {
             x.run(200);
         }
         return x;

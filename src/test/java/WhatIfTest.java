@@ -129,14 +129,19 @@ public final class WhatIfTest {
 
     /** At each place of a run, asking what would be leaves all as it is. */
     private static void nothingChanges() {
-        EmberScript x = Bench.with(BUSY);
-        EmberScript y = Bench.with(BUSY);
-        for (int n = 0; n < 150 && x.state() == 0; n++) {
-            x.stepsToEnd(1 + n);
+        int all = Bench.done(BUSY).steps();
+        for (int ahead = 0; ahead <= all; ahead++) {
+            EmberScript x = Bench.with(BUSY);
+            EmberScript y = Bench.with(BUSY);
+            while (y.state() == 0 && y.steps() < ahead) {
+                x.run(1);
+                y.run(1);
+            }
+            x.stepsToEnd(1 + ahead % 200);
             x.printedIn(200);
-            x.thingsIn(200 - n);
+            x.thingsIn(200 - ahead % 200);
             x.runsToPrint();
-            x.stateIfInterrupted(n % 8);
+            x.stateIfInterrupted(ahead % 8);
             x.garbage();
             x.share();
             for (int thing = 0; thing < 48; thing++) {
@@ -148,7 +153,10 @@ public final class WhatIfTest {
                 }
             }
             Bench.is("digest behind questions", x.digest(), y.digest());
-            Bench.is("run", x.run(1 + n % 3), y.run(1 + n % 3));
+            if (x.state() == 0) {
+                Bench.is("run", x.run(1 + ahead % 3), y.run(1 + ahead % 3));
+                Bench.is("digest behind questions and a run", x.digest(), y.digest());
+            }
         }
     }
 
@@ -171,9 +179,13 @@ public final class WhatIfTest {
     /** At each place of a run, what is told comes true, whatever was asked before. */
     private static void asToldOf(String text) {
         int all = Bench.done(text).steps();
-        EmberScript other = Bench.with(HOLDERS[3]);
         for (int ahead = 0; ahead < all; ahead++) {
-            EmberScript x = ahead % 2 == 0 ? new EmberScript() : other;
+            EmberScript x = new EmberScript();
+            if (ahead % 2 == 1) {
+                Bench.load(x, HOLDERS[3]);
+                x.run(30);
+                x.stepsToEnd(30);
+            }
             Bench.load(x, text);
             if (ahead > 0 && ahead < 200) {
                 x.run(ahead);
