@@ -167,7 +167,7 @@ public final class LanguageTest {
         Bench.prints("for i in 2 {for i in 3 {} print i;}", "2 2");
         Bench.prints("var n = 3; for i in n {n = 1; print i;}", "0 1 2");
         // What is left by a break is what is in the loop, whatever stands ahead of the loop, or round it.
-        String twice = "for i in 2 {for j in 2 {break;} print i;} ";
+        String twice = "for i in 2 {for j in 5 {break;} print i;} ";
         Bench.prints("for a in 1 {} " + twice, "0 1");
         Bench.prints("try {} finally {} " + twice, "0 1");
         Bench.prints("try {} catch e {} " + twice, "0 1");
@@ -309,7 +309,7 @@ public final class LanguageTest {
         // Generators that wait, that have not begun, and frames that wait keep theirs.
         x = longRun("def f(n) {var a = n; return a;} def g(n) {var k = n; yield k; yield k + 1; yield k + 2;}"
                 + "var a = g(10); var b = g(20); var c = fun(n) {return fun() {yield n;};}(30)(); next a;"
-                + "def deep(n) {var m = n; if n > 0 {deep(n - 1);} else {for i in 2500 {f(i);}} if m != n {print m;}}"
+                + "def deep(n) {var m = n + 9; if n > 0 {deep(n - 1);} else {for i in 2500 {f(i);}} if m != n + 9 {print m;}}"
                 + "deep(5); print next a; print next b; print next c;");
         Bench.is("state", x.state(), 1);
         Bench.is("printed", x.printed(), 3);

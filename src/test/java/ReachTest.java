@@ -249,6 +249,13 @@ public final class ReachTest {
         Bench.is("a running generator with the number 0", x.distance(0), 1);
         x.run(1);
         Bench.is("as it waits", x.distance(0), -1);
+        x = Bench.done("object {}; var f = fun() {yield 1;}; collect; var i = f(); next i; try {next i;} catch e {}");
+        Bench.is("number", x.numberOf(1), 0);
+        Bench.is("stateOf as it has ended", x.stateOf(0), 3);
+        Bench.is("thrown", x.numberOf(2), 6);
+        x = Bench.done("object {}; var f = fun() {throw 1; yield 1;}; collect; var i = f(); try {next i;} catch e {}");
+        Bench.is("stateOf as it has thrown", x.stateOf(0), 3);
+        Bench.is("thrown", x.numberOf(2), 1);
         // In another's variable it is reached, by itself, too.
         x = at("var i = nil; def g() {#yield 1;} i = g(); next i;");
         Bench.is("it reaches itself by a variable", x.reaches(1, 1), true);
@@ -309,6 +316,12 @@ public final class ReachTest {
         filled(46, "o = nil; var j = object {c = 5, g = fun() {yield self.c;}}; object {}; object {}; print j.c;", "5");
         filled(46, "o = nil; var j = object {c = 5, g = fun() {yield self.c;}}.g(); print next j;", "5");
         filled(45, "def make(a) {return fun() {yield a.c;};} o = nil; var j = make(object {c = 5})(); print next j;", "5");
+        EmberScript y = Bench.done(String.format(FILL, 45)
+                + "def make(a) {return fun() {yield a.c;};} o = nil; var j = make(object {c = 5})();");
+        Bench.is("collections", y.collections(), 1);
+        Bench.is("freed: all but make, and what is in the scope round the generator", y.freed(), 46);
+        Bench.is("what is there: those, and the generator", y.things(), 3);
+        Bench.is("the variable of the scope round the generator", y.distance(46), 2);
         // The function that was called is not kept: its number is the new generator's, or free for the next.
         EmberScript x = new EmberScript();
         Bench.load(x, String.format(FILL, 47) + "var j = fun() {yield 1;}();");

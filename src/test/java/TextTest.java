@@ -4,6 +4,7 @@ public final class TextTest {
         newObject();
         tape();
         loading();
+        manyLoads();
         tokens();
         cutTokens();
         grammar();
@@ -93,6 +94,16 @@ public final class TextTest {
         Bench.is("load", Bench.load(x, "print 1; var a = 5; var b = 6;"), 0);
         Bench.is("kind of a variable behind a load", x.kindOf(0), 0);
         Bench.is("number of a variable behind a load", x.numberOf(1), 0);
+    }
+
+    /** However many loops were read before, those of the latest script are its own. */
+    private static void manyLoads() {
+        EmberScript x = new EmberScript();
+        for (int n = 0; n < 22; n++) {
+            Bench.is("load of 25 loops", Bench.load(x, times("while 1{break;}", 24) + "while 1{break;}"), 0);
+        }
+        Bench.is("run of 25 loops", x.run(200), 50);
+        Bench.is("state", x.state(), 1);
     }
 
     private static void tokens() {
