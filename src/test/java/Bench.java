@@ -1,3 +1,8 @@
+import java.lang.reflect.InvocationTargetException;
+import java.lang.reflect.Method;
+import java.util.Arrays;
+import java.util.Comparator;
+
 /** What the tests share: scripts given as text, answers compared with those that are due, calls that are refused. */
 final class Bench {
     interface Call {
@@ -40,6 +45,27 @@ final class Bench {
 
     static void refusesState(String what, Call call) {
         refuses(what, "IllegalStateException", call);
+    }
+
+    /** Refused with this exception, and nothing is changed. */
+    static void refusesIndex(String what, EmberScript x, Call call) {
+        unchanged(what, x, () -> refuses(what, "IndexOutOfBoundsException", call));
+    }
+
+    static void refusesArgument(String what, EmberScript x, Call call) {
+        unchanged(what, x, () -> refuses(what, "IllegalArgumentException", call));
+    }
+
+    static void refusesState(String what, EmberScript x, Call call) {
+        unchanged(what, x, () -> refuses(what, "IllegalStateException", call));
+    }
+
+    static void unchanged(String what, EmberScript x, Call call) {
+        long before = x.digest();
+        int place = x.errorAt();
+        call.make();
+        is("digest behind " + what, x.digest(), before);
+        is("errorAt behind " + what, x.errorAt(), place);
     }
 
     private static void refuses(String what, String due, Call call) {
@@ -106,8 +132,32 @@ final class Bench {
         is("errorAt of " + text, x.errorAt(), place);
     }
 
+    /** Compares the error of a text, whose position is marked by a #, which is no part of it. */
+    static void failsAt(String text, int error) {
+        fails(text.replace("#", ""), error, text.indexOf('#'));
+    }
+
     static void loads(String text) {
         fails(text, 0, -1);
+    }
+
+    /** Runs a script till it stands at a statement that begins at the mark #, which is no part of the text. */
+    static EmberScript at(String text) {
+        int mark = text.indexOf('#');
+        EmberScript x = with(text.replace("#", ""));
+        for (int n = 0; n < 300 && x.state() == 0 && x.place() != mark; n++) {
+            x.run(1);
+        }
+        is("place of " + text, x.place(), mark);
+        return x;
+    }
+
+    static String times(String text, int count) {
+        StringBuilder all = new StringBuilder();
+        for (int n = 0; n < count; n++) {
+            all.append(text);
+        }
+        return all.toString();
     }
 
     /** Compares what a script prints, each value written by its kind (n, s, t ..) and number, with blanks between. */
@@ -137,6 +187,34 @@ final class Bench {
             case 5: return "function" + number;
             case 6: return "generator" + number;
             default: return "weak" + number;
+        }
+    }
+
+    /** Carries out each test of a class: its methods whose names begin with section, promise or rows. */
+    static void runAll(Class<?> tests) {
+        Method[] methods = tests.getDeclaredMethods();
+        Arrays.sort(methods, Comparator.comparing(Method::getName));
+        int count = 0;
+        for (Method method : methods) {
+            if (method.getName().matches("(section|promise)[0-9]+[A-Z].*|rows[A-Z].*")) {
+                count++;
+                int before = wrong;
+                carryOut(method);
+                if (wrong > before) {
+                    System.out.println("wrong: " + tests.getName() + "." + method.getName());
+                }
+            }
+        }
+        end(tests.getName() + ", " + count + " tests");
+    }
+
+    private static void carryOut(Method method) {
+        try {
+            method.invoke(null);
+        } catch (InvocationTargetException e) {
+            tell(method.getName() + " threw " + e.getCause());
+        } catch (IllegalAccessException e) {
+            tell(method.getName() + " can't be called");
         }
     }
 

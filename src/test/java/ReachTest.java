@@ -20,17 +20,6 @@ public final class ReachTest {
         Bench.end("ReachTest");
     }
 
-    /** Runs a script till it stands at a statement that begins at the mark #, which is no part of the text. */
-    private static EmberScript at(String text) {
-        int mark = text.indexOf('#');
-        EmberScript x = Bench.with(text.substring(0, mark) + text.substring(mark + 1));
-        for (int n = 0; n < 400 && x.state() == 0 && x.place() != mark; n++) {
-            x.run(1);
-        }
-        Bench.is("place of " + text, x.place(), mark);
-        return x;
-    }
-
     private static void distances() {
         EmberScript x = Bench.done("var a = object {n = object {n = object {n = object {}}}}; var b = object {}; b = nil;");
         Bench.is("distance(3)", x.distance(3), 1);
@@ -128,84 +117,84 @@ public final class ReachTest {
     }
 
     private static void frames() {
-        EmberScript x = at("def f(a) {var b = object {}; #1;} object {m = f}.m(object {});");
+        EmberScript x = Bench.at("def f(a) {var b = object {}; #1;} object {m = f}.m(object {});");
         Bench.is("things", x.things(), 4);
         Bench.is("self", x.distance(1), 1);
         Bench.is("the input", x.distance(2), 1);
         Bench.is("the variable", x.distance(3), 1);
         Bench.is("garbage", x.garbage(), 0);
-        EmberScript y = at("def make(a) {return fun() {#1;};} make(object {})();");
+        EmberScript y = Bench.at("def make(a) {return fun() {#1;};} make(object {})();");
         Bench.is("scopes round a frame's", y.distance(1), 1);
         Bench.is("the function that was called is not held", y.distance(2), -1);
-        EmberScript z = at("def f(a) {g();} def g() {#1;} f(object {});");
+        EmberScript z = Bench.at("def f(a) {g();} def g() {#1;} f(object {});");
         Bench.is("a frame that waits", z.distance(2), 1);
     }
 
     private static void halfWayThrough() {
         String f = "def f() {#1;} ";
-        Bench.is("left side of an operator", at(f + "object {} == f();").distance(1), 1);
-        Bench.is("left side of a comparison", at(f + "object {} < f();").distance(1), 1);
-        Bench.is("left side of and", at(f + "object {} and f();").distance(1), -1);
-        Bench.is("left side of or", at(f + "nil or f() or object {};").things(), 1);
-        Bench.is("a value ahead", at(f + "nil(object {}, f());").distance(1), 1);
-        Bench.is("what is called", at(f + "object {}(f());").distance(1), 1);
-        Bench.is("a function that is called", at(f + "fun(a) {}(f());").distance(1), 1);
-        EmberScript x = at(f + "object {m = object {}}.m(f());");
+        Bench.is("left side of an operator", Bench.at(f + "object {} == f();").distance(1), 1);
+        Bench.is("left side of a comparison", Bench.at(f + "object {} < f();").distance(1), 1);
+        Bench.is("left side of and", Bench.at(f + "object {} and f();").distance(1), -1);
+        Bench.is("left side of or", Bench.at(f + "nil or f() or object {};").things(), 1);
+        Bench.is("a value ahead", Bench.at(f + "nil(object {}, f());").distance(1), 1);
+        Bench.is("what is called", Bench.at(f + "object {}(f());").distance(1), 1);
+        Bench.is("a function that is called", Bench.at(f + "fun(a) {}(f());").distance(1), 1);
+        EmberScript x = Bench.at(f + "object {m = object {}}.m(f());");
         Bench.is("the object of a method", x.distance(2), 1);
         Bench.is("the method", x.distance(1), 1);
-        Bench.is("the object of an assignment", at(f + "object {}.a = f();").distance(1), 1);
-        x = at(f + "object like object {} {a = object {}, b = f()};");
+        Bench.is("the object of an assignment", Bench.at(f + "object {}.a = f();").distance(1), 1);
+        x = Bench.at(f + "object like object {} {a = object {}, b = f()};");
         Bench.is("the parent in braces", x.distance(1), 1);
         Bench.is("the slots in braces", x.distance(2), 1);
-        Bench.is("what is turned", at(f + "not (object {} == f());").distance(1), 1);
-        Bench.is("what was printed", at("def f() {#1;} print object {}; f();").distance(1), -1);
-        Bench.is("a call that began", at("def f(a) {a = nil; #1;} f(object {});").distance(1), -1);
-        Bench.is("what was asked for nothing", at("def g() {yield 1;} #1; g();").things(), 1);
+        Bench.is("what is turned", Bench.at(f + "not (object {} == f());").distance(1), 1);
+        Bench.is("what was printed", Bench.at("def f() {#1;} print object {}; f();").distance(1), -1);
+        Bench.is("a call that began", Bench.at("def f(a) {a = nil; #1;} f(object {});").distance(1), -1);
+        Bench.is("what was asked for nothing", Bench.at("def g() {yield 1;} #1; g();").things(), 1);
         // In each frame that waits, not only in the newest.
-        x = at("def f(n) {if n > 0 {object {} == f(n - 1);} else {#1;}} f(3);");
+        x = Bench.at("def f(n) {if n > 0 {object {} == f(n - 1);} else {#1;}} f(3);");
         Bench.is("things", x.things(), 4);
         Bench.is("garbage", x.garbage(), 0);
     }
 
     private static void forLoops() {
-        EmberScript x = at("def g() {yield 1; yield 2;} for i in g() {#1;}");
+        EmberScript x = Bench.at("def g() {yield 1; yield 2;} for i in g() {#1;}");
         Bench.is("the generator of a for", x.distance(1), 1);
         Bench.is("collect", x.collect(), 0);
         x.run(1);
         x.run(1);
         Bench.is("it goes on", x.stateOf(1), 2);
-        x = at("def g() {yield 1; yield 2;} for i in g() {break;} #1;");
+        x = Bench.at("def g() {yield 1; yield 2;} for i in g() {break;} #1;");
         Bench.is("the generator of a for that is over", x.distance(1), -1);
-        x = at("def g() {yield 1;} for i in g() {} #1;");
+        x = Bench.at("def g() {yield 1;} for i in g() {} #1;");
         Bench.is("the generator of a for that is at its end", x.distance(1), -1);
-        x = at("def g() {yield 1; yield 2;} try {for i in g() {throw 1;}} catch e {#1;}");
+        x = Bench.at("def g() {yield 1; yield 2;} try {for i in g() {throw 1;}} catch e {#1;}");
         Bench.is("the generator of a for that was left", x.distance(1), -1);
-        x = at("def g() {yield 1; yield 2;} def f() {for i in g() {k();}} def k() {#1;} f();");
+        x = Bench.at("def g() {yield 1; yield 2;} def f() {for i in g() {k();}} def k() {#1;} f();");
         Bench.is("the generator of a for of a frame that waits", x.distance(3), 1);
     }
 
     private static void finallyBlocks() {
-        EmberScript x = at("try {throw object {};} finally {#1;}");
+        EmberScript x = Bench.at("try {throw object {};} finally {#1;}");
         Bench.is("what a finally will throw", x.distance(0), 1);
-        x = at("def f() {try {return object {};} finally {#1;}} f();");
+        x = Bench.at("def f() {try {return object {};} finally {#1;}} f();");
         Bench.is("what a finally will return", x.distance(1), 1);
-        x = at("def f() {try {return object {};} finally {while true {break;} k();}} def k() {#1;} f();");
+        x = Bench.at("def f() {try {return object {};} finally {while true {break;} k();}} def k() {#1;} f();");
         Bench.is("what a finally of a frame that waits will return", x.distance(2), 1);
-        x = at("try {try {throw object {};} finally {throw 1;}} catch e {#1;}");
+        x = Bench.at("try {try {throw object {};} finally {throw 1;}} catch e {#1;}");
         Bench.is("what another came in the place of", x.distance(0), -1);
-        x = at("try {throw object {};} catch e {e = nil; #1;}");
+        x = Bench.at("try {throw object {};} catch e {e = nil; #1;}");
         Bench.is("what was caught", x.distance(0), -1);
-        x = at("try {throw object {};} catch e {} finally {e = nil; #1;}");
+        x = Bench.at("try {throw object {};} catch e {} finally {e = nil; #1;}");
         Bench.is("what was caught ahead of a finally", x.distance(0), -1);
-        x = at("def f() {try {throw object {};} finally {try {throw object {};} finally {#1;}}} f();");
+        x = Bench.at("def f() {try {throw object {};} finally {try {throw object {};} finally {#1;}}} f();");
         Bench.is("both of two", x.garbage(), 0);
-        x = at("def f() {while true {try {return object {};} finally {break;}} #1;} f();");
+        x = Bench.at("def f() {while true {try {return object {};} finally {break;}} #1;} f();");
         Bench.is("a return that break came in the place of", x.distance(1), -1);
     }
 
     /** What another script was in the middle of is forgotten as one is loaded. */
     private static void anotherScript() {
-        EmberScript x = at("def f() {#1;} try {throw object {};} finally {object {} == f();}");
+        EmberScript x = Bench.at("def f() {#1;} try {throw object {};} finally {object {} == f();}");
         Bench.is("garbage", x.garbage(), 0);
         Bench.is("load", Bench.load(x, "object {}; object {}; 1;"), 0);
         x.run(4);
@@ -223,28 +212,28 @@ public final class ReachTest {
     }
 
     private static void runningGenerators() {
-        EmberScript x = at("def g(a) {#yield 1;} next g(object {});");
+        EmberScript x = Bench.at("def g(a) {#yield 1;} next g(object {});");
         Bench.is("a running generator", x.distance(2), 1);
         Bench.is("its variable", x.distance(1), 1);
         Bench.is("it does not reach itself", x.reaches(2, 2), false);
         Bench.is("it reaches its variable", x.reaches(2, 1), true);
         Bench.is("retained", x.retained(2), 1);
-        x = at("def g() {object {} == f(); yield 1;} def f() {#1;} next g();");
+        x = Bench.at("def g() {object {} == f(); yield 1;} def f() {#1;} next g();");
         Bench.is("things", x.things(), 4);
         Bench.is("a running generator reaches what it has worked out", x.reaches(2, 3), true);
         Bench.is("which its frame holds, too", x.distance(3), 1);
-        x = at("def g() {object {} == next h(); yield 1;} def h() {object {}; #yield 1;} next g();");
+        x = Bench.at("def g() {object {} == next h(); yield 1;} def h() {object {}; #yield 1;} next g();");
         Bench.is("things", x.things(), 6);
         Bench.is("what the outer one has worked out", x.reaches(2, 3), true);
         Bench.is("but not the inner one", x.reaches(4, 3), false);
         Bench.is("garbage", x.garbage(), 1);
-        x = at("def g() {object {} == f(); yield 1;} def f() {object {} == k();} def k() {#1;} next g();");
+        x = Bench.at("def g() {object {} == f(); yield 1;} def f() {object {} == k();} def k() {#1;} next g();");
         Bench.is("things", x.things(), 6);
         Bench.is("what a generator has worked out", x.reaches(3, 4), true);
         Bench.is("what a function that it called has worked out", x.reaches(3, 5), false);
         Bench.is("garbage", x.garbage(), 0);
         // The thing with the number 0 is as good as any other.
-        x = at("object {}; var f = fun() {#yield 1;}; collect; next f();");
+        x = Bench.at("object {}; var f = fun() {#yield 1;}; collect; next f();");
         Bench.is("kindOfThing", x.kindOfThing(0), 6);
         Bench.is("a running generator with the number 0", x.distance(0), 1);
         x.run(1);
@@ -257,7 +246,7 @@ public final class ReachTest {
         Bench.is("stateOf as it has thrown", x.stateOf(0), 3);
         Bench.is("thrown", x.numberOf(2), 1);
         // In another's variable it is reached, by itself, too.
-        x = at("var i = nil; def g() {#yield 1;} i = g(); next i;");
+        x = Bench.at("var i = nil; def g() {#yield 1;} i = g(); next i;");
         Bench.is("it reaches itself by a variable", x.reaches(1, 1), true);
     }
 
@@ -265,7 +254,7 @@ public final class ReachTest {
         EmberScript x = Bench.done("def g(a) {var b = object {}; yield 1; yield 2;} var i = g(object {});");
         Bench.is("the input ahead of its beginning", x.distance(1), 2);
         Bench.is("retained", x.retained(2), 2);
-        x = at("def g(a) {var b = object {}; yield 1; yield 2;} var i = g(object {}); next i; #1; try {next i; next i;} catch e {}");
+        x = Bench.at("def g(a) {var b = object {}; yield 1; yield 2;} var i = g(object {}); next i; #1; try {next i; next i;} catch e {}");
         Bench.is("its variables as it waits", x.distance(3), 2);
         Bench.is("retained", x.retained(2), 3);
         x.run(200);

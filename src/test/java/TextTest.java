@@ -100,7 +100,7 @@ public final class TextTest {
     private static void manyLoads() {
         EmberScript x = new EmberScript();
         for (int n = 0; n < 22; n++) {
-            Bench.is("load of 25 loops", Bench.load(x, times("while 1{break;}", 24) + "while 1{break;}"), 0);
+            Bench.is("load of 25 loops", Bench.load(x, Bench.times("while 1{break;}", 24) + "while 1{break;}"), 0);
         }
         Bench.is("run of 25 loops", x.run(200), 50);
         Bench.is("state", x.state(), 1);
@@ -235,63 +235,55 @@ public final class TextTest {
         Bench.fails(";", 1, 0);
     }
 
-    private static String times(String text, int count) {
-        StringBuilder all = new StringBuilder();
-        for (int n = 0; n < count; n++) {
-            all.append(text);
-        }
-        return all.toString();
-    }
-
     private static void depth() {
-        Bench.loads(times("(", 12) + "1" + times(")", 12) + ";");
-        Bench.fails(times("(", 13) + "1" + times(")", 13) + ";", 1, 12);
-        Bench.loads(times("- ", 12) + "1;");
-        Bench.fails(times("- ", 13) + "1;", 1, 24);
-        Bench.loads(times("not ", 12) + "1;");
-        Bench.fails(times("not ", 13) + "1;", 1, 48);
-        Bench.fails(times("next ", 6) + times("weak ", 7) + "1;", 1, 60);
-        Bench.loads(times("not ", 6) + times("(", 6) + "1" + times(")", 6) + ";");
-        Bench.fails(times("not ", 6) + times("(", 7) + "1" + times(")", 7) + ";", 1, 30);
+        Bench.loads(Bench.times("(", 12) + "1" + Bench.times(")", 12) + ";");
+        Bench.fails(Bench.times("(", 13) + "1" + Bench.times(")", 13) + ";", 1, 12);
+        Bench.loads(Bench.times("- ", 12) + "1;");
+        Bench.fails(Bench.times("- ", 13) + "1;", 1, 24);
+        Bench.loads(Bench.times("not ", 12) + "1;");
+        Bench.fails(Bench.times("not ", 13) + "1;", 1, 48);
+        Bench.fails(Bench.times("next ", 6) + Bench.times("weak ", 7) + "1;", 1, 60);
+        Bench.loads(Bench.times("not ", 6) + Bench.times("(", 6) + "1" + Bench.times(")", 6) + ";");
+        Bench.fails(Bench.times("not ", 6) + Bench.times("(", 7) + "1" + Bench.times(")", 7) + ";", 1, 30);
         // Behind what a sign turns, the depth is what it was ahead of the sign.
-        Bench.loads(times("(", 11) + "- 1 - (2)" + times(")", 11) + ";");
-        Bench.loads(times("(", 11) + "not 1 and (2)" + times(")", 11) + ";");
+        Bench.loads(Bench.times("(", 11) + "- 1 - (2)" + Bench.times(")", 11) + ";");
+        Bench.loads(Bench.times("(", 11) + "not 1 and (2)" + Bench.times(")", 11) + ";");
         // But all of a comparison stands behind its not.
-        Bench.fails(times("(", 11) + "not 1 < (2)" + times(")", 11) + ";", 1, 19);
-        Bench.loads(times("(", 11) + "- 1 < (2)" + times(")", 11) + ";");
-        Bench.loads(times("if 1 {", 12) + times("}", 12));
-        Bench.fails(times("if 1 {", 13) + times("}", 13), 1, 77);
-        Bench.loads(times("if 1 {", 11) + "def f(a) {}" + times("}", 11));
-        Bench.fails(times("if 1 {", 12) + "def f(a) {}" + times("}", 12), 1, 77);
-        Bench.loads(times("if 1 {", 11) + "object {a = 1};" + times("}", 11));
-        Bench.fails(times("if 1 {", 12) + "object {a = 1};" + times("}", 12), 1, 79);
-        Bench.loads(times("nil(", 12) + times(")", 12) + ";");
-        Bench.fails(times("nil(", 13) + times(")", 13) + ";", 1, 51);
-        Bench.loads(times("fun() {", 12) + times("};", 12));
-        Bench.fails(times("fun() {", 13) + times("};", 13), 1, 12 * 7 + 3);
-        Bench.loads(times("nil(1,", 12) + "1" + times(")", 12) + ";");
-        Bench.fails(times("nil(1,", 13) + "1" + times(")", 13) + ";", 1, 75);
-        Bench.loads(times("object {a = ", 12) + "1" + times("}", 12) + ";");
-        Bench.fails(times("object {a = ", 13) + "1" + times("}", 13) + ";", 1, 12 * 12 + 7);
-        Bench.loads(times("object {a=1,b=", 12) + "1" + times("}", 12) + ";");
-        Bench.fails(times("object {a=1,b=", 13) + "1" + times("}", 13) + ";", 1, 14 * 12 + 7);
+        Bench.fails(Bench.times("(", 11) + "not 1 < (2)" + Bench.times(")", 11) + ";", 1, 19);
+        Bench.loads(Bench.times("(", 11) + "- 1 < (2)" + Bench.times(")", 11) + ";");
+        Bench.loads(Bench.times("if 1 {", 12) + Bench.times("}", 12));
+        Bench.fails(Bench.times("if 1 {", 13) + Bench.times("}", 13), 1, 77);
+        Bench.loads(Bench.times("if 1 {", 11) + "def f(a) {}" + Bench.times("}", 11));
+        Bench.fails(Bench.times("if 1 {", 12) + "def f(a) {}" + Bench.times("}", 12), 1, 77);
+        Bench.loads(Bench.times("if 1 {", 11) + "object {a = 1};" + Bench.times("}", 11));
+        Bench.fails(Bench.times("if 1 {", 12) + "object {a = 1};" + Bench.times("}", 12), 1, 79);
+        Bench.loads(Bench.times("nil(", 12) + Bench.times(")", 12) + ";");
+        Bench.fails(Bench.times("nil(", 13) + Bench.times(")", 13) + ";", 1, 51);
+        Bench.loads(Bench.times("fun() {", 12) + Bench.times("};", 12));
+        Bench.fails(Bench.times("fun() {", 13) + Bench.times("};", 13), 1, 12 * 7 + 3);
+        Bench.loads(Bench.times("nil(1,", 12) + "1" + Bench.times(")", 12) + ";");
+        Bench.fails(Bench.times("nil(1,", 13) + "1" + Bench.times(")", 13) + ";", 1, 75);
+        Bench.loads(Bench.times("object {a = ", 12) + "1" + Bench.times("}", 12) + ";");
+        Bench.fails(Bench.times("object {a = ", 13) + "1" + Bench.times("}", 13) + ";", 1, 12 * 12 + 7);
+        Bench.loads(Bench.times("object {a=1,b=", 12) + "1" + Bench.times("}", 12) + ";");
+        Bench.fails(Bench.times("object {a=1,b=", 13) + "1" + Bench.times("}", 13) + ";", 1, 14 * 12 + 7);
         // A value in parentheses behind a not ends the not.
-        Bench.loads("print " + times("not ", 12) + "1 and " + times("not ", 12) + "1;");
+        Bench.loads("print " + Bench.times("not ", 12) + "1 and " + Bench.times("not ", 12) + "1;");
         // like makes nothing deeper, however often it comes.
-        Bench.loads(times("object like ", 120) + "nil" + times(" {}", 120) + ";");
-        Bench.loads(times("(", 11) + times("object like ", 50) + "nil" + times(" {}", 50) + times(")", 11) + ";");
-        Bench.fails(times("(", 12) + times("object like ", 50) + "nil" + times(" {}", 50) + times(")", 12) + ";",
+        Bench.loads(Bench.times("object like ", 120) + "nil" + Bench.times(" {}", 120) + ";");
+        Bench.loads(Bench.times("(", 11) + Bench.times("object like ", 50) + "nil" + Bench.times(" {}", 50) + Bench.times(")", 11) + ";");
+        Bench.fails(Bench.times("(", 12) + Bench.times("object like ", 50) + "nil" + Bench.times(" {}", 50) + Bench.times(")", 12) + ";",
                 1, 12 + 50 * 12 + 4);
     }
 
     private static void tokenCount() {
-        Bench.loads(times("1;", 250));
-        Bench.fails(times("1;", 250) + "1;", 1, 500);
-        Bench.fails(times("1;", 249) + "1+1;", 1, 500);
-        Bench.loads(times("1;", 248) + "1+1;" + " \n");
-        Bench.fails(times("1;", 250) + "  A", 1, 502);
-        Bench.fails(times("1;", 249) + "1 A", 1, 500);
-        Bench.loads(times("1;\n", 250) + times(" ", 1000));
+        Bench.loads(Bench.times("1;", 250));
+        Bench.fails(Bench.times("1;", 250) + "1;", 1, 500);
+        Bench.fails(Bench.times("1;", 249) + "1+1;", 1, 500);
+        Bench.loads(Bench.times("1;", 248) + "1+1;" + " \n");
+        Bench.fails(Bench.times("1;", 250) + "  A", 1, 502);
+        Bench.fails(Bench.times("1;", 249) + "1 A", 1, 500);
+        Bench.loads(Bench.times("1;\n", 250) + Bench.times(" ", 1000));
     }
 
     private static void unknownNames() {
@@ -382,9 +374,9 @@ public final class TextTest {
     }
 
     private static void limits() {
-        Bench.loads(times("fun() {};", 20));
-        Bench.fails(times("fun() {};", 20) + "fun() {};", 5, 180);
-        Bench.fails(times("fun() {};", 20) + "def f() {}", 5, 180);
+        Bench.loads(Bench.times("fun() {};", 20));
+        Bench.fails(Bench.times("fun() {};", 20) + "fun() {};", 5, 180);
+        Bench.fails(Bench.times("fun() {};", 20) + "def f() {}", 5, 180);
         Bench.loads(variables(0, 16));
         Bench.fails(variables(0, 17), 5, variables(0, 16).length() + 4);
         Bench.fails(variables(0, 16) + "for z in 1 {}", 5, variables(0, 16).length() + 4);
@@ -427,7 +419,7 @@ public final class TextTest {
     private static void orderOfErrors() {
         // Error 1 comes ahead of all others, wherever it is.
         Bench.fails("print a; var b = 1; var b = 2; return; (", 1, 40);
-        Bench.fails(times("fun() {};", 25) + "A", 1, 225);
+        Bench.fails(Bench.times("fun() {};", 25) + "A", 1, 225);
         // Otherwise the first token counts.
         Bench.fails("return; print a;", 4, 0);
         Bench.fails("print a; return;", 2, 6);
@@ -443,7 +435,7 @@ public final class TextTest {
         Bench.fails(variables(0, 16) + "var a0=1;", 3, variables(0, 16).length() + 4);
         // What is beyond a limit is declared all the same.
         Bench.fails("print a16;" + variables(0, 17), 5, 10 + variables(0, 16).length() + 4);
-        Bench.fails("f();" + times("fun() {};", 20) + "def f() {}", 5, 184);
+        Bench.fails("f();" + Bench.times("fun() {};", 20) + "def f() {}", 5, 184);
     }
 
     private static void whatIsKnown() {
